@@ -460,9 +460,8 @@ public final class StoneChurn {
 
     /** Returns the number of the cause of the latest denial. */
     public int denialCause() throws NoSuchElementException {
-        requireDenial();
         if (deniedCause == FINE) {
-            throw new NoSuchElementException("the latest denial has no cause");
+            throw new NoSuchElementException("there is no denial, or the latest has no cause");
         }
         return deniedCause;
     }
@@ -712,7 +711,11 @@ public final class StoneChurn {
         }
 
         void passMinute() {
-            cycle.work(churn);
+            if (cycle.isUnderWay()) {
+                int phase = cycle.present;
+                churn.change(cycle.kinds[phase], cycle.levels[phase]);
+                cycle.advance();
+            }
             table.coolDown();
             tally.minutes++;
         }
@@ -834,7 +837,6 @@ public final class StoneChurn {
 
         void end() {
             present = NONE;
-            minutesDone = 0;
         }
 
         int minutesToCome() {
@@ -848,14 +850,10 @@ public final class StoneChurn {
             return sum;
         }
 
-        /** The next minute of the present phase takes place, if the cycle is running. */
-        void work(Churn churn) {
-            if (!isUnderWay()) {
-                return;
-            }
-            churn.change(kinds[present], levels[present]);
+        /** A minute of the present phase has taken place. */
+        void advance() {
             minutesDone++;
-            if (minutesDone < minutes[present]) {
+            if (!isUnderWay() || minutesDone < minutes[present]) {
                 return;
             }
             present++;

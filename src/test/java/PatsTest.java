@@ -22,6 +22,7 @@ public final class PatsTest {
         cooling();
         patByFirmness();
         nextCool();
+        fullTable();
         Due.end("PatsTest");
     }
 
@@ -401,5 +402,39 @@ public final class PatsTest {
         x.run(40);
         Due.is(3, x.nextCool(3));
         Due.is(1, x.nextCool(1));
+    }
+
+    /** Twelve pats cool, are told apart, and leave the table from its first, last and middle place. */
+    private static void fullTable() {
+        StoneChurn x = new StoneChurn();
+        x.load(100);
+        phase(x, 'h', 6, 1);
+        phase(x, 'h', 1, 3);
+        for (int i = 0; i < 12; i++) {
+            x.press(12 - i);
+        }
+        x.run(2);
+        Due.promise("28");
+        Due.is(37, x.patTemperature(0));
+        Due.is(37, x.patTemperature(11));
+        Due.promise("35");
+        Due.fails(NONE, () -> x.nextCool(0));
+        x.run(2);
+        Due.is(11, x.nextCool(11));
+        Due.promise("34");
+        Due.is(11, x.patByFirmness(11));
+        Due.promise("24");
+        Due.is('e', x.gradePat(11));
+        Due.is(11, x.patCount());
+        Due.promise("25");
+        x.press(1);
+        x.crush(0);
+        Due.is(11, x.patMass(0));
+        Due.is(1, x.patMass(10));
+        x.press(1);
+        x.crush(5);
+        Due.is(7, x.patMass(4));
+        Due.is(5, x.patMass(5));
+        Due.is(11, x.patCount());
     }
 }

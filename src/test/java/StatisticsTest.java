@@ -116,6 +116,12 @@ public final class StatisticsTest {
         Due.is(0.0, x.meanFirmness());
         x.crush(1);
         Due.is(-10.0 / 6.0, x.meanFirmness());
+        x.crush(0);
+        Due.is(-2.0, x.meanFirmness());
+        x.press(20);
+        // two crushed pats have taken the smoothness of the churn from 10 to 8
+        Due.is(8, x.smoothness());
+        Due.is(-17.0 / 6.0, x.meanFirmness());
         for (int i = 0; i < 6; i++) {
             x.crush(0);
         }

@@ -247,6 +247,22 @@ public final class TextsTest {
         fault(x, "phase " + (char) ('h' + 256) + " 1 1", 6);
         fault(x, "stop;stop;stop;stop;stop;stop;stop;stop;stop;stop;stop;stop;", 60);
         fault(x, "stop;stop;stop;stop;stop;stop;stop;stop;stop;stop;stop;stopx", 59);
+        // texts that end too early at the end of a full buffer
+        fault(x, "run 001;run 001;run 001;run 001;run 001;run 001;stop;phase ", 59);
+        fault(x, "run 001;run 001;run 001;run 001;run 001;run 001;start;phase ", 60);
+        fault(x, "run 001;run 001;run 001;run 001;run 001;run 01;start;phase h", 60);
+        fault(x, "run 001;run 001;run 001;run 001;run 001;run 001;start;start;", 60);
+        fault(x, "run 001;run 001;run 001;run 001;run 001;run 001;start;start;".substring(0, 58) + "ru", 58);
+        fault(x, "run 001;run 001;run 001;run 001;run 001;run 001;run 001;run ", 60);
+        fault(x, "run 001;run 001;run 001;run 001;run 001;run 001;run 1;phase ", 60);
+        // signs of an earlier text do not continue a later one
+        fault(x, "phase h 1 1;phase h 1 1;x", 24);
+        fault(x, "phase ", 6);
+        fault(x, "phase h", 7);
+        fault(x, "phase h 1", 9);
+        fault(x, "phase h 1 ", 10);
+        fault(x, "pha", 3);
+        fault(x, "phase h 1 1;", 12);
         Due.is(0, x.patCount());
         Due.fails(NONE, () -> x.denial());
     }

@@ -65,6 +65,14 @@ public final class UndoTest {
         undoOf(x, () -> x.stop());
         undoOf(x, () -> Due.execute(x, "load 10;press 3;start;run 7;press 5;stop"));
         undoOf(x, () -> Due.execute(x, "run 100;grade 0"));
+        undoOf(x, () -> Due.execute(x, "crush 0;phase h 5 4;cut 0;cut 0;start"));
+        undoOf(x, () -> x.run(5));
+        undoOf(x, () -> Due.execute(x, "phase t 9 5;cut 0;start;press 1"));
+        undoOf(x, () -> x.run(9));
+        undoOf(x, () -> x.press(2));
+        // pats that differ in all that they have
+        undoOf(x, () -> x.crush(0));
+        undoOf(x, () -> x.crush(0));
     }
 
     private static void undoLatestEight() {
