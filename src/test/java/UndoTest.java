@@ -7,6 +7,7 @@ public final class UndoTest {
 
     public static void main(String[] args) {
         undoEachChange();
+        undoOfPats();
         undoLatestEight();
         onlyChangesCount();
         undoLeavesTheRest();
@@ -70,7 +71,24 @@ public final class UndoTest {
         undoOf(x, () -> Due.execute(x, "phase t 9 5;cut 0;start;press 1"));
         undoOf(x, () -> x.run(9));
         undoOf(x, () -> x.press(2));
-        // pats that differ in all that they have
+    }
+
+    /** Pats that differ in all that they have come back with it. */
+    private static void undoOfPats() {
+        StoneChurn x = new StoneChurn();
+        Due.execute(x, "load 90;phase h 10 3;phase t 10 5;phase h 4 5;phase t 9 5");
+        x.start();
+        x.run(15);
+        x.press(9);
+        x.run(10);
+        x.press(8);
+        x.run(8);
+        x.press(7);
+        Due.promise("51");
+        Due.is("9@20#25/", Due.line(x, x.writePat(0)));
+        Due.is("8@130#50/", Due.line(x, x.writePat(1)));
+        Due.is("7@170#50/////", Due.line(x, x.writePat(2)));
+        undoOf(x, () -> x.crush(0));
         undoOf(x, () -> x.crush(0));
         undoOf(x, () -> x.crush(0));
     }
