@@ -19,6 +19,11 @@ final class Due {
         promise = name;
     }
 
+    /** How many answers were asked for so far. */
+    static int asked() {
+        return asked;
+    }
+
     static void is(Object want, Object got) {
         asked++;
         if (!Objects.equals(want, got)) {
@@ -40,7 +45,23 @@ final class Due {
         is(want.getSimpleName(), outcome(call));
     }
 
-    /** The answer of a call, or the full name of the class of its exception. */
+    /** A call is denied; no method denies with a cause, but for execute. */
+    static void denied(StoneChurn x, int number, int detail, Call call) {
+        fails(UnsupportedOperationException.class, call);
+        is(number, outcome(x::denial));
+        is(detail, outcome(x::denialDetail));
+        is("NoSuchElementException", outcome(x::denialCause));
+    }
+
+    /** The execution of a text is denied, since one of its commands failed. */
+    static void failed(StoneChurn x, int command, int cause, String text) {
+        fails(UnsupportedOperationException.class, () -> execute(x, text));
+        is(7, outcome(x::denial));
+        is(command, outcome(x::denialDetail));
+        is(cause, outcome(x::denialCause));
+    }
+
+    /** The answer of a call, or the simple name of the class of its exception. */
     static Object outcome(Call call) {
         try {
             return call.answer();

@@ -16,81 +16,62 @@ public final class UndoTest {
         Due.end("UndoTest");
     }
 
-    /** Everything that changes can change, as one text, read by calls that change nothing of it. */
-    private static String state(StoneChurn x) {
-        StringBuilder text = new StringBuilder(Due.line(x, x.writeCycle()));
-        for (int i = 0; i < x.patCount(); i++) {
-            text.append(", ").append(Due.line(x, x.writePat(i)));
-        }
-        text.append(" left ").append(x.minutesLeft()).append(" finished ").append(x.finishedCycles());
-        text.append(" mass ").append(x.mass()).append(" at ").append(x.temperature());
-        text.append(" smooth ").append(x.smoothness()).append(" stress ").append(x.stress());
-        text.append(" minute ").append(x.minute()).append(" loaded ").append(x.loadedMass());
-        text.append(" graded ").append(x.gradedMass());
-        for (char grade = 'a'; grade <= 'e'; grade++) {
-            text.append(' ').append(x.gradedCount(grade));
-        }
-        return text.toString();
+    /** A change of a churn. */
+    private interface Change {
+        Object of(StoneChurn x);
     }
 
-    private static void undoOf(StoneChurn x, Due.Call change) {
-        String before = state(x);
+    private static void undoOf(StoneChurn x, Change change) {
+        String before = Sight.state(x);
         int count = x.undoCount();
-        change.answer();
+        change.of(x);
         Due.promise("52");
         Due.is(Math.min(8, count + 1), x.undoCount());
-        String after = state(x);
+        String after = Sight.state(x);
         Due.promise("51");
         Due.is(false, before.equals(after));
         Due.is(Math.min(7, count), x.undo());
-        Due.is(before, state(x));
-        change.answer();
-        Due.is(after, state(x));
+        Due.is(before, Sight.state(x));
+        change.of(x);
+        Due.is(after, Sight.state(x));
     }
 
+    /** Each change is undone on an object of its own, on which those before it have been made. */
     private static void undoEachChange() {
-        StoneChurn x = new StoneChurn();
-        undoOf(x, () -> x.addPhase('h', 20, 4));
-        undoOf(x, () -> x.addPhase('t', 20, 5));
-        undoOf(x, () -> x.addPhase('r', 20, 5));
-        undoOf(x, () -> x.removePhase(1));
-        undoOf(x, () -> x.load(50));
-        undoOf(x, () -> x.start());
-        undoOf(x, () -> x.run(19));
-        undoOf(x, () -> x.press(20));
-        undoOf(x, () -> x.press(10));
-        undoOf(x, () -> x.run(240));
-        undoOf(x, () -> x.gradePat(0));
-        undoOf(x, () -> x.crush(0));
-        undoOf(x, () -> x.start());
-        undoOf(x, () -> x.stop());
-        undoOf(x, () -> Due.execute(x, "load 10;press 3;start;run 7;press 5;stop"));
-        undoOf(x, () -> Due.execute(x, "run 100;grade 0"));
-        undoOf(x, () -> Due.execute(x, "crush 0;phase h 5 4;cut 0;cut 0;start"));
-        undoOf(x, () -> x.run(5));
-        undoOf(x, () -> Due.execute(x, "phase t 9 5;cut 0;start;press 1"));
-        undoOf(x, () -> x.run(9));
-        undoOf(x, () -> x.press(2));
+        Change[] changes = {x -> x.addPhase('h', 20, 4), x -> x.addPhase('t', 20, 5), x -> x.addPhase('r', 20, 5),
+            x -> x.removePhase(1), x -> x.load(50), x -> x.start(), x -> x.run(19), x -> x.press(20),
+            x -> x.press(10), x -> x.run(240), x -> x.gradePat(0), x -> x.crush(0), x -> x.start(), x -> x.stop(),
+            x -> Due.execute(x, "load 10;press 3;start;run 7;press 5;stop"), x -> Due.execute(x, "run 100;grade 0"),
+            x -> Due.execute(x, "crush 0;phase h 5 4;cut 0;cut 0;start"), x -> x.run(5),
+            x -> Due.execute(x, "phase t 9 5;cut 0;start;press 1"), x -> x.run(9), x -> x.press(2)};
+        for (int last = 0; last < changes.length; last++) {
+            StoneChurn x = new StoneChurn();
+            for (int i = 0; i < last; i++) {
+                changes[i].of(x);
+            }
+            undoOf(x, changes[last]);
+        }
     }
 
     /** Pats that differ in all that they have come back with it. */
     private static void undoOfPats() {
-        StoneChurn x = new StoneChurn();
-        Due.execute(x, "load 90;phase h 10 3;phase t 10 5;phase h 4 5;phase t 9 5");
-        x.start();
-        x.run(15);
-        x.press(9);
-        x.run(10);
-        x.press(8);
-        x.run(8);
-        x.press(7);
-        Due.promise("51");
-        Due.is("9@20#25/", Due.line(x, x.writePat(0)));
-        Due.is("8@130#50/", Due.line(x, x.writePat(1)));
-        Due.is("7@170#50/////", Due.line(x, x.writePat(2)));
-        undoOf(x, () -> x.crush(0));
-        undoOf(x, () -> x.crush(0));
-        undoOf(x, () -> x.crush(0));
+        Change[] changes = {x -> x.crush(0), x -> x.crush(1), x -> x.crush(2), x -> x.gradePat(0)};
+        for (Change change : changes) {
+            StoneChurn x = new StoneChurn();
+            Due.execute(x, "load 90;phase h 10 3;phase t 10 5;phase h 4 5;phase t 9 5");
+            x.start();
+            x.run(15);
+            x.press(9);
+            x.run(10);
+            x.press(8);
+            x.run(8);
+            x.press(7);
+            Due.promise("51");
+            Due.is("9@20#25/", Due.line(x, x.writePat(0)));
+            Due.is("8@130#50/", Due.line(x, x.writePat(1)));
+            Due.is("7@170#50/////", Due.line(x, x.writePat(2)));
+            undoOf(x, change);
+        }
     }
 
     private static void undoLatestEight() {
@@ -174,23 +155,23 @@ public final class UndoTest {
         Due.execute(x, "phase h 9 4;phase t 9 5;load 80;start;run 11;press 9");
         x.press(8);
         Due.promise("53");
-        String saved = state(x);
+        String saved = Sight.state(x);
         Due.is(2, x.saveSnapshot());
-        Due.is(saved, state(x));
+        Due.is(saved, Sight.state(x));
         Due.is(2, x.undoCount());
         Due.execute(x, "run 50;grade 0;crush 0;cut 1;load 5");
         x.press(1);
-        Due.is(false, saved.equals(state(x)));
+        Due.is(false, saved.equals(Sight.state(x)));
         Due.is(4, x.undoCount());
         Due.promise("54");
         Due.is(2, x.restoreSnapshot());
-        Due.is(saved, state(x));
+        Due.is(saved, Sight.state(x));
         Due.is(0, x.undoCount());
         Due.fails(STATE, () -> x.undo());
         x.run(1);
         Due.is(1, x.undoCount());
         x.undo();
-        Due.is(saved, state(x));
+        Due.is(saved, Sight.state(x));
     }
 
     private static void snapshotIsKept() {
