@@ -146,6 +146,19 @@ final class EdgesOfChurn {
 
     // ---- forecasts
 
+    /** A forecast. */
+    private interface Forecast {
+        int of(StoneChurn x);
+    }
+
+    private static void presentStays(StoneChurn x, Forecast forecast) {
+        String before = Sight.state(x);
+        int changes = x.undoCount();
+        forecast.of(x);
+        Due.is(before, Sight.state(x));
+        Due.is(changes, x.undoCount());
+    }
+
     /** Eight phases of 30 minutes, the last of which turns at 110 degrees. */
     private static StoneChurn longCycle() {
         StoneChurn x = new StoneChurn();
@@ -179,12 +192,12 @@ final class EdgesOfChurn {
         // after the end of the cycle
         Due.is(125, x.temperatureAfter(4));
         Due.is(125, x.temperatureAfter(240));
-        // the present does not change
-        Setup.looks(x, 10, 130, 0, 0);
-        Due.is(0, x.presentPhase());
-        Due.is(3, x.minutesLeft());
+        x.press(5);
+        presentStays(x, y -> y.temperatureAfter(240));
+        presentStays(x, y -> y.temperatureAfter(1));
         x.stop();
         Due.is(130, x.temperatureAfter(240));
+        presentStays(x, y -> y.temperatureAfter(240));
     }
 
     private static void temperatureBeyond() {
@@ -217,10 +230,12 @@ final class EdgesOfChurn {
         Due.is(100, x.smoothnessAfter(5));
         Due.is(100, x.smoothnessAfter(6));
         Due.is(100, x.smoothnessAfter(240));
-        Setup.looks(x, 10, 110, 94, 0);
-        Due.is(5, x.minutesLeft());
+        x.press(5);
+        presentStays(x, y -> y.smoothnessAfter(240));
+        presentStays(x, y -> y.smoothnessAfter(1));
         x.stop();
         Due.is(94, x.smoothnessAfter(240));
+        presentStays(x, y -> y.smoothnessAfter(240));
     }
 
     private static void smoothnessBeyond() {
@@ -270,7 +285,7 @@ final class EdgesOfChurn {
         Setup.cycle(y, "c30:1", "t30:1", "t30:1", "t30:1", "t30:1", "t30:1", "t30:1", "h30:1");
         y.start();
         Due.is(90, y.peakTemperature());
-        Setup.looks(y, 10, 20, 0, 0);
+        presentStays(y, z -> z.peakTemperature());
         Due.is(240, y.minutesLeft());
         y.run(238);
         Due.is(84, y.temperature());

@@ -52,13 +52,19 @@ final class EdgesOfTexts {
     }
 
     private static void lines() {
+        Edges.of("45", "Writes the cycle as the output line, which replaces the previous one",
+                EdgesOfTexts::cycleReplacesLine);
         Edges.of("45", "for each phase its kind, its minutes, \":\" and its level, with a space between two phases",
                 EdgesOfTexts::cycleLine);
         Edges.of("45", "\"*\" after the present phase.", EdgesOfTexts::star);
         Edges.of("45", "The line of a cycle without phases is empty.", EdgesOfTexts::emptyCycleLine);
+        Edges.of("45", "Example: \"h10:3 t20:1* r5:2\".", EdgesOfTexts::cycleExample);
         Edges.of("45", "Returns the length of the line.", EdgesOfTexts::cycleLineLength);
+        Edges.of("46", "Writes a pat as the output line, which replaces the previous one",
+                EdgesOfTexts::patReplacesLine);
         Edges.of("46", "its mass, \"@\" and its temperature, \"#\" and its smoothness, and \"/\" for each crack.",
                 EdgesOfTexts::patLine);
+        Edges.of("46", "Example: \"12@85#40//\".", EdgesOfTexts::patExample);
         Edges.of("46", "- `pat`: the index of the pat", EdgesOfTexts::anyPat);
         Edges.of("46", "Throws `IndexOutOfBoundsException` if there is no such pat", EdgesOfTexts::noSuchPat);
         Edges.of("47", "Returns a character of the output line, which is initially empty.", EdgesOfTexts::emptyLine);
@@ -438,6 +444,14 @@ final class EdgesOfTexts {
             Due.is(1, Due.execute(y, "run 1"));
             Due.is(1, y.minute());
         }
+        // nor do its numbers
+        StoneChurn z = new StoneChurn();
+        Due.execute(z, "phase h 9 5;run 7;run 6;run 5");
+        Due.is(3, Due.execute(z, "start;stop;start"));
+        Setup.looks(z, 0, 20, 0, 0);
+        Due.is(18, z.minute());
+        Due.is(1, z.phaseCount());
+        Due.is(9, z.minutesLeft());
         // a full buffer is empty afterwards too
         Due.fails(ARGUMENT, () -> Due.execute(x, " ".repeat(60)));
         Due.is(1, x.feed(' '));
@@ -533,6 +547,56 @@ final class EdgesOfTexts {
     }
 
     // ---- output lines
+
+    private static void cycleReplacesLine() {
+        StoneChurn x = Setup.churn(5, 200, 100, 99);
+        x.press(5);
+        // of a longer line, of one as long, of a shorter one, and once more
+        Due.is(19, x.writePat(0));
+        Setup.cycle(x, "h1:1");
+        Due.is(4, x.writeCycle());
+        Due.is("h1:1", Sight.line(x));
+        x.removePhase(0);
+        Setup.cycle(x, "c2:2");
+        x.writeCycle();
+        Due.is("c2:2", Sight.line(x));
+        Setup.cycle(x, "t30:5");
+        x.writeCycle();
+        x.writeCycle();
+        Due.is("c2:2 t30:5", Sight.line(x));
+    }
+
+    private static void patReplacesLine() {
+        StoneChurn x = Setup.churn(25, 200, 100, 99);
+        x.press(20);
+        Setup.cycle(x, "h30:1", "h30:2", "h30:3", "h30:4");
+        Due.is(23, x.writeCycle());
+        x.writePat(0);
+        Due.is("20@200#100//////////", Sight.line(x));
+        x.run(40);
+        x.writePat(0);
+        Due.is("20@20#100//////////", Sight.line(x));
+        x.press(5);
+        x.writePat(1);
+        x.writePat(1);
+        Due.is("5@200#100//////////", Sight.line(x));
+    }
+
+    private static void cycleExample() {
+        StoneChurn x = new StoneChurn();
+        Setup.cycle(x, "h10:3", "t20:1", "r5:2");
+        x.start();
+        x.run(10);
+        Due.is(17, x.writeCycle());
+        Due.is("h10:3 t20:1* r5:2", Sight.line(x));
+    }
+
+    private static void patExample() {
+        StoneChurn x = Setup.churn(12, 85, 40, 20);
+        x.press(12);
+        Due.is(10, x.writePat(0));
+        Due.is("12@85#40//", Sight.line(x));
+    }
 
     private static void cycleLine() {
         StoneChurn x = new StoneChurn();
