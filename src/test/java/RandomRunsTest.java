@@ -15,6 +15,9 @@ public final class RandomRunsTest {
     private static final String[] CHANGES = {"addPhase", "addPhase", "removePhase", "start", "start", "stop", "run",
         "run", "run", "load", "load", "press", "press", "press", "gradePat", "gradePat", "crush", "undo",
         "saveSnapshot", "restoreSnapshot", "text", "text", "text"};
+    private static final String[] WARM_CHANGES = {"addPhase", "removePhase", "start", "start", "start", "stop", "run",
+        "run", "run", "run", "run", "load", "press", "press", "press", "press", "gradePat", "gradePat", "gradePat",
+        "crush", "undo", "undo", "saveSnapshot", "restoreSnapshot", "text"};
     private static final int[] FAR = {-1, 0, 13, 30, 31, 60, 100, 101, 240, 241, 999, Integer.MAX_VALUE,
         Integer.MIN_VALUE};
 
@@ -62,26 +65,46 @@ public final class RandomRunsTest {
         Model model = new Model();
         // some runs never restore what lies far back, so that they come far
         boolean forward = run % 2 == 0;
-        int made = 0;
+        // others begin with a churn that is turned while it is warm or hot: few do by chance
+        boolean warm = run % 4 >= 2;
+        String[] changes = warm ? WARM_CHANGES : CHANGES;
+        int made = warm ? warmUp(run, x, model, face) : 0;
         while (made < CALLS && wrong < 20) {
-            if (below(2) == 0) {
-                String name = CHANGES[below(CHANGES.length)];
-                if (name.equals("text")) {
-                    String text = text();
-                    for (int i = 0; i < text.length() && made < CALLS - 1; i++) {
-                        compare(run, made++, x, model, method(face, "feed"), text.charAt(i), 0, 0);
-                    }
-                    compare(run, made++, x, model, method(face, "execute"), ' ', 0, 0);
-                } else if (!forward || !name.equals("restoreSnapshot")) {
-                    oneCall(run, made++, x, model, method(face, name));
-                }
-            } else {
-                Method any = face.get(below(face.size()));
-                if (!forward || !any.getName().equals("restoreSnapshot")) {
-                    oneCall(run, made++, x, model, any);
-                }
+            String name = below(2) == 0 ? changes[below(changes.length)] : face.get(below(face.size())).getName();
+            if (name.equals("text")) {
+                made = oneText(run, made, x, model, face);
+            } else if (!forward || !name.equals("restoreSnapshot")) {
+                oneCall(run, made++, x, model, method(face, name));
             }
         }
+    }
+
+    /** Returns the number of calls that it has made. */
+    private static int warmUp(int run, StoneChurn x, Model model, List<Method> face) {
+        int made = 0;
+        compare(run, made++, x, model, method(face, "load"), ' ', 50 + below(51), 0);
+        for (int i = 0; i < 3; i++) {
+            // by about 40 to 200 degrees, then up to 100 of smoothness, or of stress where it is too hot
+            compare(run, made++, x, model, method(face, "addPhase"), 'h', 4 + below(6), 2 + below(4));
+            compare(run, made++, x, model, method(face, "addPhase"), 't', 5 + below(26), 1 + below(5));
+        }
+        compare(run, made++, x, model, method(face, "addPhase"), "cr".charAt(below(2)), 1 + below(30), 1 + below(5));
+        compare(run, made++, x, model, method(face, "start"), ' ', 0, 0);
+        compare(run, made++, x, model, method(face, "run"), ' ', 20 + below(60), 0);
+        return made;
+    }
+
+    /** Feeds a text and, but for some that are left to the next one, executes it; returns the number of calls. */
+    private static int oneText(int run, int before, StoneChurn x, Model model, List<Method> face) {
+        String text = text();
+        int made = before;
+        for (int i = 0; i < text.length() && made < CALLS - 1; i++) {
+            compare(run, made++, x, model, method(face, "feed"), text.charAt(i), 0, 0);
+        }
+        if (below(8) > 0) {
+            compare(run, made++, x, model, method(face, "execute"), ' ', 0, 0);
+        }
+        return made;
     }
 
     private static Method method(List<Method> face, String name) {
@@ -105,7 +128,7 @@ public final class RandomRunsTest {
             case "temperatureAfter": case "smoothnessAfter": a = below(241); break;
             case "lineCharacter": a = below(20); break;
             case "phaseKind": case "phaseMinutes": case "removePhase": a = below(8); break;
-            default: a = below(below(2) == 0 ? 12 : 3); break;
+            default: a = below(Math.max(1, (int) model.answer("patCount", ' ', 0, 0) + below(2))); break;
         }
         if (below(20) == 0) {
             a = FAR[below(FAR.length)];
